@@ -280,7 +280,9 @@ public final class SmudgedStar {
         int best = NO_SET;
         int leastLeft = SETS + 1;
         int now = explanations();
-        for (int used = 1; used <= allThings(); used++) {
+        // No night can leave less than half of them for sure, so the first that leaves half ends the search.
+        int half = (now + 1) / 2;
+        for (int used = 1; used <= allThings() && leastLeft > half; used++) {
             int leftWithSmudge = explanationsMeeting(used);
             int left = Math.max(leftWithSmudge, now - leftWithSmudge);
             if (left < leastLeft) {

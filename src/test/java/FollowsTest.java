@@ -211,6 +211,11 @@ public final class FollowsTest {
                 3, 1, 1, 0,
                 2, 0, 0,
                 0, 2, 1));
+        CHECK.same("digest(), the simplest not sure", Make.withNights(2, 3, 1).digest(), checksum(
+                2, 1, 1, 1, 0, 0, 0, 3, 1, 0,
+                1, 1, 0, 0, 2, 0,
+                1, 1, 0, 0, 2, 0,
+                3, 1));
         SmudgedStar contradicting = Make.withNights(1, 1, 1, 1, 0);
         CHECK.same("digest(), nights contradict", contradicting.digest(), checksum(
                 1, 2, 1, 0, 0, 0, 0, 0, -1, -1,

@@ -97,7 +97,8 @@ public final class ModelTest {
             case 20 -> same("simplest()", star::simplest, model::simplest);
             case 21 -> same("surelyToBlame()", star::surelyToBlame, model::surelyToBlame);
             case 22 -> same("nightsToDoubt()", star::nightsToDoubt, model::nightsToDoubt);
-            case 23 -> same("leftIfSmudged(" + set + ")", () -> star.leftIfSmudged(set), () -> model.leftIfSmudged(set));
+            case 23 -> same("leftIfSmudged(" + set + ")", () -> star.leftIfSmudged(set),
+                    () -> model.leftIfSmudged(set));
             case 24 -> same("bestNight()", star::bestNight, model::bestNight);
             case 25 -> same("wouldChange(" + set + ", " + smudged + ")", () -> star.wouldChange(set, smudged),
                     () -> model.wouldChange(set, smudged));

@@ -75,6 +75,7 @@ public final class ThingsAndNightsTest {
         SmudgedStar both = Make.withNights(2, 1, 1, 1, 0);
         CHECK.same("isProved(0), cleared too", both.isProved(0), true);
         CHECK.same("isCleared(0), proved too", both.isCleared(0), true);
+        CHECK.same("isProved(1), not used where all are cleared", both.isProved(1), false);
         SmudgedStar later = Make.withNights(3, 6, 1, 3, 1, 1, 0);
         CHECK.same("isProved(1) by the second night", later.isProved(1), true);
         CHECK.same("isProved(2)", later.isProved(2), false);
