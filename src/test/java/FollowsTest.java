@@ -135,6 +135,8 @@ public final class FollowsTest {
         CHECK.same("bestNight(), an unused thing halves", Make.withNights(3, 3, 1).bestNight(), 4);
         // The sets 3 to 7 explain all: thing 0 is in three of them, and no night parts five better than 3 to 2.
         CHECK.same("bestNight(), five parted 3 to 2", Make.withNights(3, 5, 1, 6, 1).bestNight(), 1);
+        CHECK.same("bestNight(), four parted 3 to 1", Make.withNights(3, 3, 1, 5, 1, 6, 1).bestNight(), 1);
+        CHECK.same("bestNight(), nine parted 6 to 3", Make.withNights(4, 3, 1, 12, 1).bestNight(), 1);
         CHECK.same("bestNight() of 8 with a sure one", Make.withNights(8, 1, 1, 2, 1, 4, 1, 8, 1, 16, 1, 32, 1, 64, 1)
                 .bestNight(), 128);
         CHECK.same("bestNight() of 8, all sure", Make.withNights(8, 1, 1, 2, 1, 4, 1, 8, 1, 16, 1, 32, 1, 64, 1, 128, 1)
