@@ -10,7 +10,6 @@ public final class AstronomersTest {
         votesFor();
         vote();
         changesOfMind();
-        wrongNumbers();
         CHECK.end();
     }
 
@@ -127,17 +126,5 @@ public final class AstronomersTest {
         CHECK.same("changesOfMind() after a contradiction", star.changesOfMind(), 2);
         star.strike(0);
         CHECK.same("changesOfMind() after strike", star.changesOfMind(), 2);
-    }
-
-    private static void wrongNumbers() {
-        SmudgedStar[] stars = {Make.withThings(1), Make.withAstronomers(2, 0, 5), Make.full()};
-        for (SmudgedStar star : stars) {
-            CHECK.refusesWrongNumbers(star, 19, "blamedBy", star.astronomers(), star::blamedBy);
-            CHECK.refusesWrongNumbers(star, 20, "stubbornnessOf", star.astronomers(), star::stubbornnessOf);
-            CHECK.refusesWrongNumbers(star, 21, "unexplainedBy", star.astronomers(), star::unexplainedBy);
-            CHECK.refusesWrongNumbers(star, 22, "votesFor", star.things(), star::votesFor);
-        }
-        SmudgedStar none = Make.withAstronomers(0, 1);
-        CHECK.refusesWrongNumbers(none, 22, "votesFor", 0, none::votesFor);
     }
 }

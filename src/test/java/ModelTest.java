@@ -2,12 +2,14 @@ import java.util.function.Supplier;
 
 /** Long runs of calls, the same ones each time, on an object and on the model: every answer must be the same. */
 public final class ModelTest {
-    private static final int RUNS = 120;
+    private static final int RUNS = 240;
+    // No more: what an object answers after its 512th call is free.
     private static final int CALLS = 512;
     private static final Check CHECK = new Check();
 
     private SmudgedStar star = new SmudgedStar();
     private Model model = new Model();
+    private int calls;
     private long seed;
     private int truth;
     private int lies;
@@ -25,6 +27,7 @@ public final class ModelTest {
     private void run(int number) {
         star = new SmudgedStar();
         model = new Model();
+        calls = 0;
         seed = 1000003L * number + 7;
         truth = pick(256);
         lies = number % 4 == 0 ? 30 : number % 4;
@@ -32,7 +35,7 @@ public final class ModelTest {
         for (int i = 0; i < things; i++) {
             same("addThing()", star::addThing, model::addThing);
         }
-        for (int call = things; call < CALLS; call++) {
+        while (calls + 2 <= CALLS) {
             if (pick(5) < 2) {
                 tell();
             } else {
@@ -107,7 +110,8 @@ public final class ModelTest {
         same("digest()", star::digest, model::digest);
     }
 
-    private static void same(String what, Supplier<?> got, Supplier<?> due) {
+    private void same(String what, Supplier<?> got, Supplier<?> due) {
+        calls++;
         CHECK.same(what, answer(got), answer(due));
     }
 

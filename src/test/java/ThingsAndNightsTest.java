@@ -10,8 +10,6 @@ public final class ThingsAndNightsTest {
         setsWith();
         nights();
         agree();
-        wrongThings();
-        wrongNights();
         CHECK.end();
     }
 
@@ -129,26 +127,5 @@ public final class ThingsAndNightsTest {
         CHECK.same("agree()", Make.withNights(2, 3, 1, 1, 0).agree(), true);
         CHECK.same("agree(), nights contradict", Make.withNights(2, 3, 1, 1, 0, 2, 0).agree(), false);
         CHECK.same("agree(), nothing to blame", Make.withNights(8, 255, 0).agree(), true);
-    }
-
-    private static void wrongThings() {
-        for (SmudgedStar star : new SmudgedStar[] {new SmudgedStar(), Make.withThings(3), Make.full()}) {
-            CHECK.refusesWrongNumbers(star, 8, "nightsWith", star.things(), star::nightsWith);
-            CHECK.refusesWrongNumbers(star, 9, "smudgesWith", star.things(), star::smudgesWith);
-            CHECK.refusesWrongNumbers(star, 10, "isCleared", star.things(), star::isCleared);
-            CHECK.refusesWrongNumbers(star, 11, "isProved", star.things(), star::isProved);
-            CHECK.refusesWrongNumbers(star, 12, "setsWith", star.things(), star::setsWith);
-        }
-    }
-
-    private static void wrongNights() {
-        for (SmudgedStar star : new SmudgedStar[] {Make.withThings(1), Make.withNights(3, 1, 1, 2, 0), Make.full()}) {
-            CHECK.refusesWrongNumbers(star, 15, "usedIn", star.nights(), star::usedIn);
-            CHECK.refusesWrongNumbers(star, 16, "isSmudged", star.nights(), star::isSmudged);
-        }
-        SmudgedStar struck = Make.full();
-        struck.strike(0);
-        CHECK.refusesWrongNumbers(struck, 15, "usedIn", 39, struck::usedIn);
-        CHECK.refusesWrongNumbers(struck, 16, "isSmudged", 39, struck::isSmudged);
     }
 }

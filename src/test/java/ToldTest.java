@@ -1,10 +1,5 @@
 /** Promises 1 to 6: what is told. */
 public final class ToldTest {
-    private static final int LEAST = Integer.MIN_VALUE;
-    private static final int MOST = Integer.MAX_VALUE;
-    private static final Class<IllegalStateException> STATE = IllegalStateException.class;
-    private static final Class<IllegalArgumentException> ARGUMENT = IllegalArgumentException.class;
-    private static final Class<IndexOutOfBoundsException> INDEX = IndexOutOfBoundsException.class;
     private static final Check CHECK = new Check();
 
     public static void main(String[] args) {
@@ -15,10 +10,8 @@ public final class ToldTest {
         stubbornnessRunsOut();
         fewestThingsAreBlamed();
         nightsThatContradict();
-        writeDownRefuses();
         strike();
         strikeLeavesAstronomers();
-        strikeRefuses();
         CHECK.end();
     }
 
@@ -46,7 +39,6 @@ public final class ToldTest {
         for (int thing = 0; thing < 8; thing++) {
             CHECK.same("addThing()", star.addThing(), thing);
         }
-        CHECK.refuses("addThing() with 8", star, STATE, star::addThing);
         SmudgedStar late = Make.withNights(1, 1, 1);
         CHECK.same("addThing() after a night", late.addThing(), 1);
         CHECK.same("nightsWith(1)", late.nightsWith(1), 0);
@@ -61,19 +53,12 @@ public final class ToldTest {
     private static void addAstronomer() {
         CHECK.promise("promise 3");
         SmudgedStar star = Make.withThings(2);
-        for (int wrong : new int[] {-1, 6, LEAST, MOST}) {
-            CHECK.refuses("addAstronomer(" + wrong + ")", star, ARGUMENT, () -> star.addAstronomer(wrong));
-        }
         for (int astronomer = 0; astronomer < 8; astronomer++) {
             int stubbornness = astronomer % 6;
             CHECK.same("addAstronomer()", star.addAstronomer(stubbornness), astronomer);
             CHECK.same("blamedBy()", star.blamedBy(astronomer), 0);
             CHECK.same("stubbornnessOf()", star.stubbornnessOf(astronomer), stubbornness);
         }
-        CHECK.refuses("addAstronomer(0) with 8", star, STATE, () -> star.addAstronomer(0));
-        CHECK.refuses("addAstronomer(5) with 8", star, STATE, () -> star.addAstronomer(5));
-        CHECK.refuses("addAstronomer(6) with 8", star, ARGUMENT, () -> star.addAstronomer(6));
-        CHECK.refuses("addAstronomer(-1) with 8", star, ARGUMENT, () -> star.addAstronomer(-1));
     }
 
     private static void blame() {
@@ -87,13 +72,6 @@ public final class ToldTest {
         CHECK.same("blamedBy(1)", star.blamedBy(1), 0);
         star.writeDown(1, true);
         CHECK.same("stubbornnessOf(0)", star.stubbornnessOf(0), 1);
-        for (int wrong : new int[] {-1, 2, 8, LEAST, MOST}) {
-            CHECK.refuses("blame(" + wrong + ", 0)", star, INDEX, () -> star.blame(wrong, 0));
-            CHECK.refuses("blame(" + wrong + ", 8)", star, INDEX, () -> star.blame(wrong, 8));
-        }
-        for (int wrong : new int[] {-1, 8, 255, LEAST, MOST}) {
-            CHECK.refuses("blame(0, " + wrong + ")", star, ARGUMENT, () -> star.blame(0, wrong));
-        }
         CHECK.same("blame(0, 2), the same set", star.blame(0, 2), 2);
         CHECK.same("stubbornnessOf(0) after blame", star.stubbornnessOf(0), 2);
         CHECK.same("stubbornnessOf(1), of whom nothing was told", star.stubbornnessOf(1), 4);
@@ -103,7 +81,6 @@ public final class ToldTest {
         CHECK.same("blamedBy(0)", all.blamedBy(0), 255);
         SmudgedStar none = Make.withAstronomers(0, 0);
         CHECK.same("blame(0, 0) without things", none.blame(0, 0), 0);
-        CHECK.refuses("blame(0, 1) without things", none, ARGUMENT, () -> none.blame(0, 1));
     }
 
     private static void stubbornnessRunsOut() {
@@ -170,28 +147,6 @@ public final class ToldTest {
         expectStubbornness(star, 0, 1);
     }
 
-    private static void writeDownRefuses() {
-        CHECK.promise("promise 5");
-        SmudgedStar star = Make.withAstronomers(3, 0, 2);
-        for (int wrong : new int[] {0, -1, 8, 255, LEAST, MOST}) {
-            CHECK.refuses("writeDown(" + wrong + ", true)", star, ARGUMENT, () -> star.writeDown(wrong, true));
-            CHECK.refuses("writeDown(" + wrong + ", false)", star, ARGUMENT, () -> star.writeDown(wrong, false));
-        }
-        SmudgedStar none = new SmudgedStar();
-        CHECK.refuses("writeDown(0, true) without things", none, ARGUMENT, () -> none.writeDown(0, true));
-        CHECK.refuses("writeDown(1, true) without things", none, ARGUMENT, () -> none.writeDown(1, true));
-        SmudgedStar full = Make.full();
-        CHECK.same("nights()", full.nights(), 40);
-        CHECK.refuses("writeDown(1, true) with 40", full, STATE, () -> full.writeDown(1, true));
-        CHECK.refuses("writeDown(255, false) with 40", full, STATE, () -> full.writeDown(255, false));
-        CHECK.refuses("writeDown(0, true) with 40", full, ARGUMENT, () -> full.writeDown(0, true));
-        CHECK.refuses("writeDown(256, true) with 40", full, ARGUMENT, () -> full.writeDown(256, true));
-        full.strike(39);
-        full.writeDown(255, true);
-        CHECK.same("nights() after strike and writeDown", full.nights(), 40);
-        CHECK.same("usedIn(39)", full.usedIn(39), 255);
-    }
-
     private static void strike() {
         CHECK.promise("promise 6");
         SmudgedStar star = Make.withNights(3, 1, 1, 2, 0, 4, 1, 6, 0);
@@ -225,18 +180,6 @@ public final class ToldTest {
         expectStubbornness(star, 0, 2);
         CHECK.same("changesOfMind()", star.changesOfMind(), 1);
         CHECK.same("unexplainedBy(1)", star.unexplainedBy(1), 0);
-    }
-
-    private static void strikeRefuses() {
-        CHECK.promise("promise 6");
-        SmudgedStar star = Make.withNights(3, 1, 1, 2, 0);
-        for (int wrong : new int[] {-1, 2, 40, LEAST, MOST}) {
-            CHECK.refuses("strike(" + wrong + ")", star, INDEX, () -> star.strike(wrong));
-        }
-        SmudgedStar none = Make.withThings(1);
-        CHECK.refuses("strike(0) without nights", none, INDEX, () -> none.strike(0));
-        SmudgedStar full = Make.full();
-        CHECK.refuses("strike(40) with 40", full, INDEX, () -> full.strike(40));
     }
 
     private static void expectBlame(SmudgedStar star, int... due) {
