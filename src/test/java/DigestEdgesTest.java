@@ -12,6 +12,7 @@ public final class DigestEdgesTest {
         wrapsToBelowZero();
         minusOne();
         oneOrZero();
+        theFirstTen();
         emptyRows();
         fullRows();
         changesNothing();
@@ -64,11 +65,29 @@ public final class DigestEdgesTest {
         CHECK.same("digest(), a smudge in the second of two nights", second, -465730711059934243L);
     }
 
+    private static void theFirstTen() {
+        CHECK.sentence("promise 34", "things(), nights(), smudges(), agree(), astronomers(), vote(), changesOfMind(), "
+                + "explanations(), simplest(), surelyToBlame();");
+        SmudgedStar star = Make.withAstronomers(1, 5, 5, 0);
+        Make.writeDown(star, 1, 1, 1, 1);
+        CHECK.same("digest() of nights that agree", star.digest(),
+                mixed(1951, 1, 2, 2, 1, 3, 0, 1, 1, 1, 1, 2, 2, 0, 1, 1, 1, 1, 1, 1, 1, 0, 3, 2, 0, 3, 2, 1, 0, 0));
+        star.writeDown(1, false);
+        star.blame(0, 1);
+        CHECK.same("digest() of nights that contradict", star.digest(),
+                mixed(1951, 1, 3, 2, 0, 3, 1, 1, 0, -1, -1, 3, 2, 1, 1, 0, 2, 1, 1, 1, 1, 1, 0, 1, 5, 1, 0, 3, 2, 1, 0,
+                        1));
+        SmudgedStar free = Make.withNights(3, 6, 1);
+        CHECK.same("digest(), the simplest set is not sure", free.digest(),
+                mixed(1951, 3, 1, 1, 1, 0, 0, 0, 6, 2, 0, 0, 0, 0, 0, 3, 0, 1, 1, 0, 0, 4, 0, 1, 1, 0, 0, 4, 0, 6, 1));
+    }
+
     private static void emptyRows() {
         CHECK.sentence("promise 34", "then for each thing nightsWith(), smudgesWith(), isCleared(), isProved(), "
                 + "setsWith(), votesFor(); then for each night usedIn(), isSmudged(); then for each astronomer "
                 + "blamedBy(), stubbornnessOf(), unexplainedBy().");
-        CHECK.same("digest() without any of them", new SmudgedStar().digest(), mixed(1951, 0, 0, 0, 1, 0, 0, 0, 1, 0, 0));
+        CHECK.same("digest() without any of them", new SmudgedStar().digest(),
+                mixed(1951, 0, 0, 0, 1, 0, 0, 0, 1, 0, 0));
         CHECK.same("digest() with things alone", Make.withThings(2).digest(),
                 mixed(1951, 2, 0, 0, 1, 0, 0, 0, 4, 0, 0, 0, 0, 0, 0, 2, 0, 0, 0, 0, 0, 2, 0));
         CHECK.same("digest() with astronomers alone", Make.withAstronomers(0, 4, 1).digest(),

@@ -28,6 +28,7 @@ public final class FollowsEdgesTest {
         bestNightChangesNothing();
         howManyWouldChange();
         noneWouldChange();
+        oneSetAloneIsTakenUp();
         wouldChangeChangesNothing();
         wouldChangeNeedsASet();
         wouldChangeNeedsRoom();
@@ -70,7 +71,8 @@ public final class FollowsEdgesTest {
             int all = (1 << things) - 1;
             String of = " of " + things;
             CHECK.same("explanations() without nights" + of, Make.withThings(things).explanations(), all + 1);
-            CHECK.same("explanations(), all but the empty set" + of, Make.withNights(things, all, 1).explanations(), all);
+            SmudgedStar smudge = Make.withNights(things, all, 1);
+            CHECK.same("explanations(), all but the empty set" + of, smudge.explanations(), all);
             CHECK.same("explanations(), the empty set" + of, Make.withNights(things, all, 0).explanations(), 1);
         }
         CHECK.same("explanations(), the set of all things", eachSmudged().explanations(), 1);
@@ -92,8 +94,8 @@ public final class FollowsEdgesTest {
         CHECK.same("simplest() of 8 sets of one", Make.withNights(8, 255, 1).simplest(), 1);
         CHECK.same("simplest() of the last two", Make.withNights(8, 192, 1).simplest(), 64);
         CHECK.same("simplest() of 16 sets of two", Make.withNights(8, 15, 1, 240, 1).simplest(), 17);
-        CHECK.same("simplest() of three sets of seven", Make.withNights(8, 3, 1, 5, 1, 6, 1, 8, 1, 16, 1, 32, 1, 64, 1, 128, 1)
-                .simplest(), 251);
+        CHECK.same("simplest() of three sets of seven",
+                Make.withNights(8, 3, 1, 5, 1, 6, 1, 8, 1, 16, 1, 32, 1, 64, 1, 128, 1).simplest(), 251);
     }
 
     private static void noneIsSimplest() {
@@ -197,8 +199,8 @@ public final class FollowsEdgesTest {
     }
 
     private static void theNightThatTellsTheMost() {
-        CHECK.sentence("promise 31", "Looks for the night that would tell the most: a set of things to be used, by which "
-                + "the greater one of what is left with a smudge and without one is the least.");
+        CHECK.sentence("promise 31", "Looks for the night that would tell the most: a set of things to be used, by "
+                + "which the greater one of what is left with a smudge and without one is the least.");
         CHECK.same("bestNight(), 1 and 1 by the last of 8", Make.withNights(8, 127, 0).bestNight(), 128);
         CHECK.same("bestNight(), 2 and 1 by one of two", Make.withNights(8, 192, 1, 63, 0).bestNight(), 64);
         // With a smudge by 1, 2 or 4 four of the seven sets are left, without one three.
@@ -213,6 +215,9 @@ public final class FollowsEdgesTest {
             CHECK.same("bestNight() of " + things + " without nights", Make.withThings(things).bestNight(), 1);
         }
         CHECK.same("bestNight(), each of the last two halves", Make.withNights(8, 63, 0).bestNight(), 64);
+        CHECK.same("bestNight(), 3 and 1 by each of three", Make.withNights(3, 3, 1, 5, 1, 6, 1).bestNight(), 1);
+        SmudgedStar pairs = Make.withNights(8, 15, 0, 48, 1, 192, 1);
+        CHECK.same("bestNight(), 6 and 3 by each of the last four", pairs.bestNight(), 16);
         CHECK.same("bestNight(), one set left, each night is as good", eachSmudged().bestNight(), 1);
         CHECK.same("bestNight(), the empty set left, each night is as good", Make.withNights(8, 255, 0).bestNight(), 1);
         CHECK.same("bestNight(), no set left, each night is as good", contradicting().bestNight(), 1);
@@ -238,9 +243,7 @@ public final class FollowsEdgesTest {
                 + "down");
         CHECK.same("wouldChange(255, true) without astronomers", Make.withThings(8).wouldChange(255, true), 0);
         for (int stubborn = 0; stubborn <= 8; stubborn++) {
-            int[] stubbornness = new int[8];
-            java.util.Arrays.fill(stubbornness, 0, stubborn, 1);
-            SmudgedStar star = Make.withAstronomers(8, stubbornness);
+            SmudgedStar star = Make.withStubborn(8, stubborn);
             CHECK.same("wouldChange(128, true), " + stubborn + " stubborn", star.wouldChange(128, true), 8 - stubborn);
             CHECK.same("wouldChange(255, true), " + stubborn + " stubborn", star.wouldChange(255, true), 8 - stubborn);
             CHECK.same("wouldChange(255, false), which all explain", star.wouldChange(255, false), 0);
@@ -262,6 +265,17 @@ public final class FollowsEdgesTest {
         star.writeDown(127, true);
         CHECK.same("wouldChange(255, true), nights contradict", star.wouldChange(255, true), 0);
         CHECK.same("writeDown(255, true), nights contradict", star.writeDown(255, true), 0);
+    }
+
+    private static void oneSetAloneIsTakenUp() {
+        CHECK.sentence("promise 32", "Returns how many astronomers would blame other things, if this night was written "
+                + "down");
+        SmudgedStar all = Make.withNights(8, 1, 1, 2, 1, 4, 1, 8, 1, 16, 1, 32, 1, 64, 1);
+        all.addAstronomer(0);
+        CHECK.same("wouldChange(128, true), to the set of all things", all.wouldChange(128, true), 1);
+        SmudgedStar none = Make.withAstronomers(8, 0);
+        none.blame(0, 255);
+        CHECK.same("wouldChange(255, false), to the empty set", none.wouldChange(255, false), 1);
     }
 
     private static void wouldChangeChangesNothing() {

@@ -22,6 +22,15 @@ final class Make {
         return star;
     }
 
+    /** 8 astronomers, so many of them of stubbornness 1 and the others of 0. */
+    static SmudgedStar withStubborn(int things, int stubborn) {
+        SmudgedStar star = withThings(things);
+        for (int astronomer = 0; astronomer < 8; astronomer++) {
+            star.addAstronomer(astronomer < stubborn ? 1 : 0);
+        }
+        return star;
+    }
+
     /** One astronomer to each set, who blames it. */
     static SmudgedStar withBlame(int things, int... sets) {
         SmudgedStar star = withThings(things);

@@ -440,7 +440,8 @@ public final class TermsEdgesTest {
         }
         CHECK.refuses("blame(0, 1) without anything", SmudgedStar::new, INDEX, s -> s.blame(0, 1));
         for (int wrong : new int[] {-1, 0, 256}) {
-            CHECK.refuses("writeDown(" + wrong + ", true) with 40", Make::full, ARGUMENT, s -> s.writeDown(wrong, true));
+            CHECK.refuses("writeDown(" + wrong + ", true) with 40", Make::full, ARGUMENT,
+                    s -> s.writeDown(wrong, true));
             CHECK.refuses("wouldChange(" + wrong + ", true) with 40", Make::full, ARGUMENT,
                     s -> s.wouldChange(wrong, true));
         }

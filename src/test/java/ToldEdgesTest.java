@@ -226,9 +226,7 @@ public final class ToldEdgesTest {
         CHECK.same("writeDown() of 8 that give up", all.writeDown(255, true), 8);
         CHECK.same("writeDown() of 8 that explain it", all.writeDown(1, true), 0);
         for (int stubborn = 0; stubborn <= 8; stubborn++) {
-            int[] stubbornness = new int[8];
-            java.util.Arrays.fill(stubbornness, 0, stubborn, 1);
-            SmudgedStar some = Make.withAstronomers(1, stubbornness);
+            SmudgedStar some = Make.withStubborn(1, stubborn);
             CHECK.same("writeDown() with " + stubborn + " stubborn", some.writeDown(1, true), 8 - stubborn);
             CHECK.same("writeDown() again", some.writeDown(1, true), stubborn);
         }
